@@ -3,9 +3,10 @@ import java.util.List;
 import java.util.Random;
 
 /**
- * Runs of calls, the same ones each time, on an object and on a model that shares no thought with it:
- * where letters have few days it counts all ways one by one; where they have up to 200, it crosses
- * out days without a fitting day of the other letter until none is left to cross out.
+ * Runs of calls, the same ones each time, on an object and on a model: where letters have few days
+ * it counts all ways one by one; where they have up to 200, it crosses out days without a fitting
+ * day of the other letter until none is left to cross out. The second rests, as the object does, on
+ * ways being closed under the lesser and the greater day; only the first would show that wrong.
  */
 public final class OracleTest {
     private static final int UNKNOWN = -1, OUTSIDE = -2, STATE = -3, FULL = -4, NONE = -9;
