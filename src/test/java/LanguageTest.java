@@ -24,6 +24,8 @@ public final class LanguageTest {
     private static final String[] FORBIDDEN = {"throw", "throws", "try", "catch", "finally",
         "synchronized", "assert", "import", "package", "native", "volatile", "System.out", "Random",
         "Exact\\(", "->", "::", "var"};
+    /** Of the library that the rules leave, what the class has use for. */
+    private static final Set<String> LIBRARY = Set.of("Integer.bitCount", "Math.max", "Math.min");
 
     private static int wrong = 0;
 
@@ -73,6 +75,12 @@ public final class LanguageTest {
         while (made.find()) {
             if (!own.contains(made.group(1))) {
                 fault("makes a " + made.group(1));
+            }
+        }
+        Matcher used = Pattern.compile("\\b[A-Z]\\w*\\.\\w+").matcher(source);
+        while (used.find()) {
+            if (!LIBRARY.contains(used.group())) {
+                fault("uses " + used.group());
             }
         }
     }
