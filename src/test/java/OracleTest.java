@@ -3,10 +3,11 @@ import java.util.List;
 import java.util.Random;
 
 /**
- * Runs of calls, the same ones each time, on an object and on a model: where letters have few days
- * it counts all ways one by one; where they have up to 200, it crosses out days without a fitting
- * day of the other letter until none is left to cross out. The second rests, as the object does, on
- * ways being closed under the lesser and the greater day; only the first would show that wrong.
+ * Runs of calls, the same ones each time, on an object and on a model: where letters have few days,
+ * or where they are three or four, it counts all ways one by one; where more of them have up to 200,
+ * it crosses out days without a fitting day of the other letter until none is left to cross out. The
+ * second rests, as the object does, on ways being closed under the lesser and the greater day; only
+ * the first would show that wrong.
  */
 public final class OracleTest {
     private static final int UNKNOWN = -1, OUTSIDE = -2, STATE = -3, FULL = -4, NONE = -9;
@@ -23,6 +24,10 @@ public final class OracleTest {
         }
         for (int seed = 1000; seed < 1060; seed++) {
             run(seed, 3 + seed % 6, 40 + seed * 37 % 160, false, 200);
+        }
+        // Few letters with many days, all ways counted: here the closure is not taken for granted.
+        for (int seed = 2000; seed < 2030; seed++) {
+            run(seed, seed % 2 == 0 ? 3 : 4, seed % 2 == 0 ? DAYS : 45, true, 200);
         }
         System.out.println(wrong == 0 ? "object and model agree" : wrong + " answers differ");
         if (wrong != 0) {
